@@ -374,7 +374,7 @@ public final class HeadStart {
     if (noPart(what)) return refuse(OTHER);
     int best = 0;
     int least = 17;
-    for (int bits = 0; bits < 1 << bags.n; bits++) {
+    for (int bits = 0; bits < (1 << bags.n); bits++) {
       int far = Math.abs(carrying(one, other, bits) - 8);
       if (far < least) {
         least = far;
@@ -691,7 +691,7 @@ public final class HeadStart {
     int sum = 0;
     for (int i = 0; i < now.n; i++) {
       int t = now.tenthsOver(i, now.way / 2, 0);
-      sum += (bits >> i & 1) != 0 ? t : -t;
+      sum += ((bits >> i) & 1) != 0 ? t : -t;
     }
     return Math.abs(sum);
   }
@@ -712,7 +712,7 @@ public final class HeadStart {
     int all = 0;
     for (int b = 0; b < bags.n; b++) {
       all += bags.at(b);
-      if ((bits >> b & 1) != 0) mine += bags.at(b);
+      if (((bits >> b) & 1) != 0) mine += bags.at(b);
     }
     race.put(place, now.tenths(one) + 2 * mine, now.spread[one]);
     race.put(1 - place, now.tenths(other) + 2 * (all - mine), now.spread[other]);
@@ -721,10 +721,10 @@ public final class HeadStart {
 
   /** Of 4096. In each BRACKET the numbers of two who meet first differ in the same bits. */
   private int cupWays(int runner, int bracket) {
-    int against = runner ^ bracket + 1;
+    int against = runner ^ (bracket + 1);
     int sum = 0;
     for (int j = 0; j < 4; j++) {
-      if (j != runner && j != against) sum += sixteenths(j, j ^ bracket + 1) * sixteenths(runner, j);
+      if (j != runner && j != against) sum += sixteenths(j, j ^ (bracket + 1)) * sixteenths(runner, j);
     }
     return sixteenths(runner, against) * sum;
   }
@@ -945,7 +945,7 @@ public final class HeadStart {
       int rest = digits;
       int seen = 0;
       for (int p = 0; p < n; p++) {
-        seen |= 1 << rest % 10;
+        seen |= 1 << (rest % 10);
         rest /= 10;
       }
       return rest == 0 && seen == (1 << n) - 1;
@@ -978,7 +978,7 @@ public final class HeadStart {
     }
 
     int allWays() {
-      return 1 << 2 * n;
+      return 1 << (2 * n);
     }
 
     /** In how many of all ways one is first. */
@@ -1009,7 +1009,7 @@ public final class HeadStart {
         most = Math.max(most, ways);
         least = Math.min(least, ways);
       }
-      return n == 0 ? 0 : most - least;
+      return most - least;
     }
 
     int outcomes() {
@@ -1060,7 +1060,7 @@ public final class HeadStart {
       int z = seed;
       for (int i = 0; i < n; i++) {
         z = z * 1103515245 + 12345;
-        int draw = (z & Integer.MAX_VALUE) / 65536 % 4;
+        int draw = (z & 0x7fffffff) / 65536 % 4;
         tenths[i] = draw == 0 ? low[i] : draw == 3 ? high[i] : mid[i];
       }
       line();
@@ -1093,7 +1093,7 @@ public final class HeadStart {
       for (int i = 0; i < n; i++) {
         int place = 0;
         for (int j = 0; j < n; j++) {
-          if (tenths[j] < tenths[i] || tenths[j] == tenths[i] && j < i) place++;
+          if (tenths[j] < tenths[i] || (tenths[j] == tenths[i] && j < i)) place++;
         }
         places[place] = i;
       }

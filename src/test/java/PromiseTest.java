@@ -684,7 +684,7 @@ public final class PromiseTest {
     refused("longer nobody", x, () -> x.longer(2), -1);
   }
 
-  // 25, 27, 28, 29
+  // 25
   private static void fitting() {
     HeadStart x = with("r00150010;r00160010;m32;");
     due("fits an empty row", x.fits(0, 0), 100);
