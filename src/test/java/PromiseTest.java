@@ -61,51 +61,44 @@ public final class PromiseTest {
   }
 
   /** A refusal: the number, counted once, and nothing else changed. */
-  private static void refused(String what, HeadStart x, LongSupplier call, int number, long told) {
-    String before = state(x);
-    int counted = x.count(10 - number);
+  private static void refused(String what, Noted x, LongSupplier call, int number, long told) {
+    String before = x.state();
+    Noted counted = x.twin();
     due(what, call.getAsLong(), told);
-    due(what + " counted", x.count(10 - number), counted + 1);
-    looked++;
-    if (!state(x).equals(before)) wrong.add(what + " changed " + before + " to " + state(x));
+    Noted recounted = x.twin();
+    for (int w = 11; w <= 16; w++) {
+      due(what + " counted by " + w, recounted.count(w), counted.count(w) + (w == 10 - number ? 1 : 0));
+    }
+    same(what, x.state(), before);
   }
 
-  private static void refused(String what, HeadStart x, LongSupplier call, int number) {
+  private static void same(String what, String got, String want) {
+    looked++;
+    if (!got.equals(want)) wrong.add(what + ": not as it was\n  " + want + "\n  " + got);
+  }
+
+  private static void refused(String what, Noted x, LongSupplier call, int number) {
     refused(what, x, call, number, number);
   }
 
-  private static void refusedHigh(String what, HeadStart x, LongSupplier call, int number) {
+  private static void refusedHigh(String what, Noted x, LongSupplier call, int number) {
     refused(what, x, call, number, HIGH - number);
   }
 
-  private static void refusedLong(String what, HeadStart x, LongSupplier call, int number) {
+  private static void refusedLong(String what, Noted x, LongSupplier call, int number) {
     refused(what, x, call, number, LONG - number);
   }
 
-  private static String state(HeadStart x) {
-    StringBuilder s = new StringBuilder();
-    for (int w = 0; w <= 10; w++) s.append(x.count(w)).append(' ');
-    s.append(x.count(17)).append(' ').append(x.count(18));
-    for (int i = 0; i < x.count(0); i++) {
-      for (int w = 0; w <= 6; w++) s.append(w == 0 ? " / " : " ").append(x.runner(i, w));
-    }
-    return s.toString();
+  private static int tell(Noted x, String lane) {
+    return x.tell(lane);
   }
 
-  private static int tell(HeadStart x, String lane) {
-    for (int i = 0; i < lane.length(); i++) x.feed(lane.charAt(i));
-    return x.lane();
+  private static Noted with(String lane) {
+    return Noted.with(lane);
   }
 
-  private static HeadStart with(String lane) {
-    HeadStart x = new HeadStart();
-    if (!lane.isEmpty() && tell(x, lane) < 0) wrong.add("no lane: " + lane);
-    return x;
-  }
-
-  private static void row(HeadStart x, int... numbers) {
-    x.clear();
-    for (int v : numbers) x.row(v);
+  private static void row(Noted x, int... numbers) {
+    x.rows(numbers);
   }
 
   private static void fractionDue(String what, long above, long below, long wantAbove, long wantBelow) {
@@ -115,14 +108,14 @@ public final class PromiseTest {
 
   // 1
   private static void aNewObject() {
-    HeadStart x = new HeadStart();
+    Noted x = new Noted();
     int[] want = {0, 100, 0, 0, 2, 0, 0, 0, 0, 0, 0, 0, 0, 0, 0, 0, 0, 0, 0};
     for (int w = 0; w < want.length; w++) due("new: count " + w, x.count(w), want[w]);
   }
 
   // 2
   private static void letters() {
-    HeadStart x = new HeadStart();
+    Noted x = new Noted();
     refused("feed below 0", x, () -> x.feed(-1), -4);
     refused("feed of 256", x, () -> x.feed(256), -6);
     due("feed of 0", x.feed(0), 1);
@@ -136,7 +129,7 @@ public final class PromiseTest {
 
   // 3
   private static void lanesThatCome() {
-    HeadStart x = new HeadStart();
+    Noted x = new Noted();
     due("one of each", tell(x, "w80;r12150307;r00200000;m13;s120;g;"), 6);
     due("letters are no more", x.count(7), 0);
     due("way", x.count(1), 80);
@@ -157,7 +150,7 @@ public final class PromiseTest {
     due("most spread", x.runner(3, 3), 20);
     due("m49", tell(x, "m49;"), 1);
     due("m01", tell(x, "m01;"), 1);
-    HeadStart y = with("r00100000;");
+    Noted y = with("r00100000;");
     StringBuilder many = new StringBuilder();
     for (int k = 0; k < 48; k++) many.append("g;");
     due("96 letters", tell(y, many.toString()), 48);
@@ -165,7 +158,6 @@ public final class PromiseTest {
   }
 
   private static void lanesWithAFault() {
-    HeadStart x = with("r00150000;");
     Object[][] faults = {
         {"", -1000}, {"w", -1001}, {"w;", -1001}, {"w1234;", -1004}, {"w12", -1003}, {"w100", -1004}, {"g", -1001}, {"g1;", -1001},
         {"g;;", -1002}, {";", -1000}, {"q", -1000}, {"m1;", -1002}, {"m123;", -1003}, {"s01;", -1003}, {"s0123;", -1004},
@@ -174,17 +166,18 @@ public final class PromiseTest {
         {"w19;", -2000}, {"w201;", -2000}, {"w0;", -2000}, {"m51;", -2000}, {"m10;", -2000}, {"s100;", -2000}, {"g;s300;w19;", -2002},
         {"r60100000;", -2000}, {"r00040000;", -2000}, {"r00410000;", -2000}, {"r00102100;", -2000},
         {"r00100000;r00100000;r00100000;r00100000;", -2030}, {"s100;r00100000;", -2000}, {"m12;w50;g;s010;w5;", -2015}};
+    String before = with("r00150000;").state();
     for (Object[] f : faults) {
-      String before = state(x);
+      Noted x = with("r00150000;");
       due("lane " + f[0], tell(x, (String) f[0]), (Integer) f[1]);
       due("letters behind a fault", x.count(7), 0);
-      looked++;
-      if (!state(x).equals(before)) wrong.add("a fault changed all: " + f[0]);
+      same("a fault: " + f[0], x.state(), before);
+      for (int w = 11; w <= 16; w++) due("a fault is not counted " + w, x.count(w), 0);
     }
-    for (int w = 11; w <= 16; w++) due("a fault is not counted " + w, x.count(w), 0);
+    Noted x = with("r00150000;");
     due("a runner told ahead in the text is there", tell(x, "r00200000;s150;"), 2);
-    due("nobody who runs", tell(new HeadStart(), "w50;g;"), -2004);
-    HeadStart y = with("r00150000;");
+    due("nobody who runs", tell(new Noted(), "w50;g;"), -2004);
+    Noted y = with("r00150000;");
     y.set(3, 998);
     due("week 999", tell(y, "g;g;"), -2002);
     due("up to week 999", tell(y, "g;"), 1);
@@ -199,7 +192,7 @@ public final class PromiseTest {
 
   // 4
   private static void runners() {
-    HeadStart x = with("r34171208;");
+    Noted x = with("r34171208;");
     int[] want = {3, 4, 17, 12, 8, 156 + 4, 0};
     for (int w = 0; w < want.length; w++) due("runner what " + w, x.runner(0, w), want[w]);
     x.run();
@@ -211,7 +204,7 @@ public final class PromiseTest {
   }
 
   private static void timesOfAllKinds() {
-    HeadStart x = with("r00150000;");
+    Noted x = with("r00150000;");
     x.set(3, 7);
     x.set(0, 93);
     int[] odd = {139, 139 - 6, 139 + 19, 139, 139 + 19 + 18, 139 + 5};
@@ -242,14 +235,14 @@ public final class PromiseTest {
       x.kind(0, k, 9);
       due("time over a yard of kind " + k, x.runner(0, 5), least[k]);
     }
-    HeadStart y = with("w20;r00050099;");
+    Noted y = with("w20;r00050099;");
     y.kind(0, 3, 4);
     due("1 at least ahead of more", y.runner(0, 5), 5);
   }
 
   // 5, 6
   private static void startsAndKinds() {
-    HeadStart x = with("r12150307;r00150300;");
+    Noted x = with("r12150307;r00150300;");
     due("start was", x.start(0, 99), 7);
     due("start is", x.runner(0, 4), 99);
     due("start 0", x.start(0, 0), 99);
@@ -276,7 +269,7 @@ public final class PromiseTest {
 
   // 7
   private static void settings() {
-    HeadStart x = with("r00150300;");
+    Noted x = with("r00150300;");
     int[] first = {100, 0, 2, 0};
     int[] lo = {20, 0, 1, 0};
     int[] hi = {200, 4, 9, 999};
@@ -302,11 +295,11 @@ public final class PromiseTest {
 
   // 8
   private static void runs() {
-    HeadStart none = new HeadStart();
+    Noted none = new Noted();
     refused("nobody runs", none, none::run, -3);
     none.set(3, 999);
     refused("nobody runs in week 999", none, none::run, -3);
-    HeadStart x = with("r00150000;r00140000;r00140000;");
+    Noted x = with("r00150000;r00140000;r00140000;");
     due("the lesser number wins", x.run(), 1);
     due("its wins", x.runner(1, 6), 1);
     due("no wins of another", x.runner(2, 6), 0);
@@ -321,11 +314,11 @@ public final class PromiseTest {
     // TIMES 150, 140, 170: 1 is first, 2 is last
     int[][] want = {{10, 20, 30}, {10, 13, 30}, {10, 20, 37}, {10, 13, 37}, {11, 13, 31}};
     for (int rule = 0; rule <= 4; rule++) {
-      HeadStart x = with("w110;r00150010;r00160020;r00220030;m" + rule + "7;");
+      Noted x = with("w110;r00150010;r00160020;r00220030;m" + rule + "7;");
       due("who wins by rule " + rule, x.run(), 1);
       for (int i = 0; i < 3; i++) due("start of " + i + " by rule " + rule, x.runner(i, 4), want[rule][i]);
     }
-    HeadStart x = with("r00150005;r00300097;r00310098;m49;s199;");
+    Noted x = with("r00150005;r00300097;r00310098;m49;s199;");
     x.set(0, 200);
     due("first of all", x.run(), 0);
     due("0 at least", x.runner(0, 4), 0);
@@ -336,10 +329,10 @@ public final class PromiseTest {
     x.run();
     due("99 at most by rule 2", x.runner(2, 4), 99);
     // both by one: less ahead of more
-    HeadStart alone = with("r00150002;m35;");
+    Noted alone = with("r00150002;m35;");
     alone.run();
     due("first and last in one", alone.runner(0, 4), 5);
-    HeadStart ties = with("r00150000;r00150000;r00150000;m35;");
+    Noted ties = with("r00150000;r00150000;r00150000;m35;");
     ties.run();
     due("of several last the greatest number", ties.runner(2, 4), 5);
     due("the middle one stays", ties.runner(1, 4), 0);
@@ -347,8 +340,8 @@ public final class PromiseTest {
 
   // 9
   private static void orders() {
-    due("order of nobody", new HeadStart().order(), 0);
-    HeadStart x = with("r00150000;r00140000;r00150000;r00100000;");
+    due("order of nobody", new Noted().order(), 0);
+    Noted x = with("r00150000;r00140000;r00150000;r00100000;");
     // 3, 1, 0, 2
     due("order", x.order(), 2013);
     due("order changes nothing", x.count(2), 0);
@@ -359,7 +352,7 @@ public final class PromiseTest {
   // 10, 11
   private static void likelihoods() {
     // 0 takes 95, 100, 105; 1 takes 97, 100, 103: 0 is first at 95, at 100 but for 97, never at 105
-    HeadStart x = with("r00100500;r00100300;");
+    Noted x = with("r00100500;r00100300;");
     fractionDue("likely 0", x.likely(0, 0), x.likely(0, 1), 5, 8);
     fractionDue("likely 1", x.likely(1, 0), x.likely(1, 1), 3, 8);
     fractionDue("ordered 0, 1", x.ordered(10, 0), x.ordered(10, 1), 5, 8);
@@ -370,10 +363,10 @@ public final class PromiseTest {
     int[] no = {0, 11, 20, 2, 110, 100, 101, 201, -10, -1, Integer.MIN_VALUE, Integer.MAX_VALUE};
     for (int d : no) refusedLong("ordered " + d, x, () -> x.ordered(d, 2), -1);
     refusedLong("ordered part", x, () -> x.ordered(10, 2), -2);
-    HeadStart none = new HeadStart();
+    Noted none = new Noted();
     fractionDue("ordered of nobody", none.ordered(0, 0), none.ordered(0, 1), 1, 1);
     refusedLong("ordered 1 of nobody", none, () -> none.ordered(1, 0), -1);
-    HeadStart y = with("r00100500;r00100500;r00100500;r00100500;");
+    Noted y = with("r00100500;r00100500;r00100500;r00100500;");
     // 0 is first at 95; at 100 but for a 95 of three; at 105 if all others are: 64 + 2 * 27 + 1
     fractionDue("likely 0 of four", y.likely(0, 0), y.likely(0, 1), 119, 256);
     // 3 is first at 95 if all others take more, at 100 if all others take 105
@@ -386,7 +379,7 @@ public final class PromiseTest {
       sum += y.ordered(d, 0) * (256 / y.ordered(d, 1));
     }
     due("all orders together", sum, 256);
-    HeadStart slow = with("w20;r00050899;r00050099;");
+    Noted slow = with("w20;r00050899;r00050099;");
     // low and time are 1 both, the high is 9
     fractionDue("1 at least", slow.likely(0, 0), slow.likely(0, 1), 3, 4);
   }
@@ -394,26 +387,26 @@ public final class PromiseTest {
   // 12
   private static void closeness() {
     // all ways of 95, 100, 100, 105 against 97, 100, 100, 103: 2+5+5+8 + 2*(3+0+0+3) + 8+5+5+2
-    HeadStart x = with("r00100500;r00100300;");
+    Noted x = with("r00100500;r00100300;");
     fractionDue("close", x.close(0, 0), x.close(0, 1), 13, 4);
     fractionDue("uneven", x.close(1, 0), x.close(1, 1), 1, 4);
     refusedLong("close what", x, () -> x.close(2, 0), -2);
     refusedLong("close part", x, () -> x.close(0, 2), -2);
     refusedLong("close what below", x, () -> x.close(-1, 0), -2);
-    HeadStart one = with("r00100500;");
+    Noted one = with("r00100500;");
     refusedLong("close of one", one, () -> one.close(0, 0), -3);
     refusedLong("uneven of one", one, () -> one.close(1, 0), -3);
     refusedLong("close what of one", one, () -> one.close(2, 0), -2);
     tell(one, "r00100500;r00200000;");
     fractionDue("close of three", one.close(0, 0), one.close(0, 1), 15, 4);
     fractionDue("uneven of three", one.close(1, 0), one.close(1, 1), 11, 16);
-    HeadStart even = with("r00100000;r00100000;");
+    Noted even = with("r00100000;r00100000;");
     fractionDue("close of none", even.close(0, 0), even.close(0, 1), 0, 1);
   }
 
   // 13
   private static void surely() {
-    HeadStart x = with("r00100500;r00100300;r00110400;r00200300;");
+    Noted x = with("r00100500;r00100300;r00110400;r00200300;");
     due("sure of none", x.sure(0), 0);
     due("never", x.sure(1), 8 + 4);
     x.start(3, 90);
@@ -421,7 +414,7 @@ public final class PromiseTest {
     due("never but one", x.sure(1), 7);
     refused("sure what", x, () -> x.sure(2), -2);
     refused("sure what below", x, () -> x.sure(-1), -2);
-    HeadStart none = new HeadStart();
+    Noted none = new Noted();
     due("sure of nobody", none.sure(0), 0);
     due("never of nobody", none.sure(1), 0);
   }
@@ -429,7 +422,7 @@ public final class PromiseTest {
   // 14
   private static void evening() {
     // 0 takes 95, 100, 105; by 12 yards 1 takes 100, 105, 110 (15 of 16), by 13 99, 104, 109 (11), by 17 94, 99, 104 (5)
-    HeadStart x = with("r00100500;r00120550;");
+    Noted x = with("r00100500;r00120550;");
     due("even", x.even(0, 1), 13);
     due("even stays", x.runner(1, 4), 50);
     // 1 takes 55, 60, 65; by 34 yards 0 takes 61, 66, 71 (15 of 16 for 1), by 35 60, 65, 70 (11), by 40 55, 60, 65 (5)
@@ -439,7 +432,7 @@ public final class PromiseTest {
       due("even by " + s, x.even(0, 1), bruteEven(x, 0, 1));
     }
     x.start(0, 0);
-    HeadStart y = with("r00100000;r00100000;");
+    Noted y = with("r00100000;r00100000;");
     due("even of several the least", y.even(0, 1), 0);
     refused("even one twice", x, () -> x.even(0, 0), -1);
     refused("even nobody", x, () -> x.even(0, 2), -1);
@@ -448,25 +441,24 @@ public final class PromiseTest {
     due("even of these two alone", x.even(0, 1), 13);
   }
 
-  private static int bruteEven(HeadStart x, int one, int other) {
+  private static int bruteEven(Noted x, int one, int other) {
+    Noted y = x.twin();
     int best = 0;
     int least = 99;
-    int was = x.runner(other, 4);
     for (int s = 0; s <= 99; s++) {
-      x.start(other, s);
-      int far = Math.abs(x.ahead(one, other) - 8);
+      y.start(other, s);
+      int far = Math.abs(y.ahead(one, other) - 8);
       if (far < least) {
         least = far;
         best = s;
       }
     }
-    x.start(other, was);
     return best;
   }
 
   // 15
   private static void evenestStarts() {
-    HeadStart x = with("r00100500;r00140500;r00120500;");
+    Noted x = with("r00100500;r00140500;r00120500;");
     for (int i = 0; i < 3; i++) x.start(i, 33);
     int[] want = bruteStarts(x, 20);
     for (int i = 0; i < 3; i++) due("starts by 20 of " + i, x.starts(20, i), want[i]);
@@ -477,29 +469,28 @@ public final class PromiseTest {
     refused("i below", x, () -> x.starts(51, -1), -4);
     refused("step 51", x, () -> x.starts(51, 0), -6);
     due("step 50", x.starts(50, 0) % 50, 0);
-    HeadStart two = with("r00100000;r00200000;");
+    Noted two = with("r00100000;r00200000;");
     // one of two is always sure, so the first of all
     due("of several the first", two.starts(5, 0) + 100 * two.starts(5, 1), 0);
-    HeadStart same = with("r00100900;r00200900;");
+    Noted same = with("r00100900;r00200900;");
     int[] wanted = bruteStarts(same, 33);
     due("starts by 33 of 0", same.starts(33, 0), wanted[0]);
     due("starts by 33 of 1", same.starts(33, 1), wanted[1]);
-    HeadStart none = new HeadStart();
+    Noted none = new Noted();
     refused("starts of nobody", none, () -> none.starts(5, 0), -3);
-    HeadStart four = with("r00100000;r00100000;r00100000;r00100000;");
+    Noted four = with("r00100000;r00100000;r00100000;r00100000;");
     refused("starts of four", four, () -> four.starts(5, 0), -3);
     refused("starts of four by 51", four, () -> four.starts(51, 0), -6);
   }
 
-  private static int[] bruteStarts(HeadStart x, int step) {
+  private static int[] bruteStarts(Noted x, int step) {
     int n = x.count(0);
     int[] best = null;
     long least = Long.MAX_VALUE;
-    int[] had = {x.runner(0, 4), x.runner(1, 4), n > 2 ? x.runner(2, 4) : 0};
     for (int a = 0; a <= 99; a += step) {
       for (int b = 0; b <= 99; b += step) {
         for (int c = 0; c <= (n > 2 ? 99 : 0); c += step) {
-          HeadStart y = copyOfThree(x, new int[] {a, b, c});
+          Noted y = copyOfThree(x, new int[] {a, b, c});
           long uneven = y.close(1, 0) * (256 / y.close(1, 1));
           if (uneven < least) {
             least = uneven;
@@ -508,11 +499,11 @@ public final class PromiseTest {
         }
       }
     }
-    for (int i = 0; i < n; i++) x.start(i, had[i]);
     return best;
   }
 
-  private static HeadStart copyOfThree(HeadStart x, int[] starts) {
+  private static Noted copyOfThree(Noted asked, int[] starts) {
+    Noted x = asked.twin();
     StringBuilder s = new StringBuilder();
     for (int i = 0; i < x.count(0); i++) {
       s.append('r').append(x.runner(i, 0)).append(x.runner(i, 1)).append(two(x.runner(i, 2))).append(two(x.runner(i, 3)));
@@ -528,7 +519,7 @@ public final class PromiseTest {
   // 16
   private static void loads() {
     // 106, 110, 114 of 1: LOADED by 1 it takes 104, by 2 109 (12 of 16 to 4), by 3 113 (4 to 12)
-    HeadStart x = with("r33100000;r00110400;");
+    Noted x = with("r33100000;r00110400;");
     due("load", x.load(0), 2);
     due("load stays", x.runner(0, 0) * 10 + x.runner(0, 1), 33);
     due("load of one alone", with("r33100000;").load(0), 0);
@@ -538,7 +529,7 @@ public final class PromiseTest {
 
   // 17
   private static void onRaces() {
-    HeadStart x = with("r00150010;r00160010;m32;");
+    Noted x = with("r00150010;r00160010;m32;");
     // 135, 144: 0 wins, 8 and 12: 138, 140: 0 wins, 6 and 14: 141, 137: 1 wins, 8 and 12 again
     int[] starts = {10, 8, 6, 8, 6, 8};
     int[] wins = {0, 1, 2, 2, 3, 3};
@@ -558,7 +549,7 @@ public final class PromiseTest {
 
   // 18
   private static void settling() {
-    HeadStart none = new HeadStart();
+    Noted none = new Noted();
     refused("nobody settles", none, none::settles, -3);
     due("settled from the first", with("r00150010;").settles(), 0);
     // 6, 3, 0: changed in races 0, 1 and 2 (from 7: 4, 1, 0)
@@ -571,7 +562,7 @@ public final class PromiseTest {
 
   // 19
   private static void bestRules() {
-    HeadStart x = with("r00150010;r00160010;m02;");
+    Noted x = with("r00150010;r00160010;m02;");
     // gaps 9 each by rule 0; 1 and 2 bring them nearer
     due("best for one is the least", x.best(1), 0);
     // second race by rules 0 .. 4: 9; 138:144; 135:140 (141 yards 88 * 16); 138:140 (88); 138:142 (89)
@@ -582,14 +573,14 @@ public final class PromiseTest {
     due("best for 60", x.best(60) >= 0 ? 1 : 0, 1);
     refused("best 0", x, () -> x.best(0), -4);
     refused("best 61", x, () -> x.best(61), -6);
-    HeadStart one = with("r00150010;");
+    Noted one = with("r00150010;");
     refused("best of one", one, () -> one.best(1), -3);
     refused("best of one for 61", one, () -> one.best(61), -6);
   }
 
   // 20
   private static void paying() {
-    HeadStart x = with("r29150000;r00150000;m02;");
+    Noted x = with("r29150000;r00150000;m02;");
     // as a RUNNER 0 wins all, as a SLY but in odd weeks
     due("pays", x.pays(0, 5), 2 - 5);
     due("pays for 1 of figure 0", x.pays(1, 5), 0);
@@ -597,7 +588,7 @@ public final class PromiseTest {
     due("pays in 60", x.pays(0, 60), -30);
     due("pays stays", x.runner(0, 0), 2);
     // who wins is four back: holding back first wins later
-    HeadStart y = with("r05150000;r00160000;m19;");
+    Noted y = with("r05150000;r00160000;m19;");
     long sly = winsAs(y, 3, 20);
     long plain = winsAs(y, 0, 20);
     due("pays as both told", y.pays(0, 20), sly - plain);
@@ -606,7 +597,7 @@ public final class PromiseTest {
     refusedHigh("pays above", x, () -> x.pays(0, 61), -6);
   }
 
-  private static long winsAs(HeadStart x, int kind, int n) {
+  private static long winsAs(Noted x, int kind, int n) {
     int was = x.kind(0, kind, x.runner(0, 1));
     long wins = x.on(0, n, 1);
     x.kind(0, was / 10, was % 10);
@@ -615,7 +606,7 @@ public final class PromiseTest {
 
   // 21, 22
   private static void worths() {
-    HeadStart x = with("r00150033;r25200000;r50100000;");
+    Noted x = with("r00150033;r25200000;r50100000;");
     due("worth", x.worth(0, 10), 15);
     due("worth of 0", x.worth(0, 0), 0);
     due("worth cut", x.worth(0, 1), 2);
@@ -644,22 +635,22 @@ public final class PromiseTest {
   // 23
   private static void teamsOfAll() {
     // over 50 yards 50, 75, 100, 125
-    HeadStart x = with("r00100099;r00150099;r00200099;r00250099;");
+    Noted x = with("r00100099;r00150099;r00200099;r00250099;");
     due("teams", x.teams(0), 9);
     due("teams apart", x.teams(1), 0);
     x.set(0, 101);
     due("half is cut", x.teams(1), 0);
-    HeadStart y = with("r00100000;r00300000;r52100070;");
+    Noted y = with("r00100000;r00300000;r52100070;");
     // 50, 150 and 57 (even week and START as 0): 0 and 2 against 1
     due("teams of three", y.teams(0), 5);
     due("teams of three apart", y.teams(1), 150 - 107);
-    HeadStart two = with("r00300000;r00100000;");
+    Noted two = with("r00300000;r00100000;");
     due("teams of two", two.teams(0), 1);
     due("teams of two apart", two.teams(1), 100);
-    HeadStart tie = with("r00100000;r00100000;r00100000;r00100000;");
+    Noted tie = with("r00100000;r00100000;r00100000;r00100000;");
     due("of several the least", tie.teams(0), 3);
     refused("teams what", x, () -> x.teams(2), -2);
-    HeadStart one = with("r00300000;");
+    Noted one = with("r00300000;");
     refused("teams of one", one, () -> one.teams(0), -3);
     refused("teams what of one", one, () -> one.teams(2), -2);
   }
@@ -667,16 +658,16 @@ public final class PromiseTest {
   // 24
   private static void longerWays() {
     // 15 a yard less 10 yards against 10 a yard: at 30 yards 30 : 30
-    HeadStart x = with("r00150010;r00100000;");
+    Noted x = with("r00150010;r00100000;");
     due("longer: on the shortest", x.longer(0), 20);
     // 1 is first when 10 * w / 10 < 15 * (w - 10) / 10, so from 31 yards (31 : 31 is a tie, 32 : 33)
     due("longer", x.longer(1), 32);
     due("longer stays", x.count(1), 100);
     due("no way is long enough", with("r00150000;r00100000;").longer(0), -9);
-    HeadStart half = with("r00200000;r00200000;");
+    Noted half = with("r00200000;r00200000;");
     due("never", half.longer(1), -9);
     // as likely as not is enough: the lesser by 8 of 16
-    HeadStart y = with("r00100500;r00100300;");
+    Noted y = with("r00100500;r00100300;");
     due("likelier", y.longer(0), 20);
     // 18 * 20 is 24 * 15, a tie, at 200 yards; 7 * 201 is 8 * 175 cut, a tie, at 201
     due("last way", with("r00180000;r00240050;").longer(0), 200);
@@ -686,27 +677,27 @@ public final class PromiseTest {
 
   // 25
   private static void fitting() {
-    HeadStart x = with("r00150010;r00160010;m32;");
+    Noted x = with("r00150010;r00160010;m32;");
     due("fits an empty row", x.fits(0, 0), 100);
     due("least for an empty row", x.fits(0, 1), 0);
     row(x, 0, 0, 1);
     // START s of 0: wins at s, s - 2, not at s - 4 with 10, 12, 14 of 1
     int many = 0;
     int least = -9;
+    Noted y = x.twin();
     for (int s = 99; s >= 0; s--) {
-      x.start(0, s);
-      boolean fit = x.on(0, 1, 1) == 1 && x.on(0, 2, 1) == 2 && x.on(0, 3, 1) == 2;
+      y.start(0, s);
+      boolean fit = y.on(0, 1, 1) == 1 && y.on(0, 2, 1) == 2 && y.on(0, 3, 1) == 2;
       if (fit) {
         many++;
         least = s;
       }
     }
-    x.start(0, 50);
     due("fits", x.fits(0, 0), many);
     due("fits some", many > 0 ? 1 : 0, 1);
     due("least that fits", x.fits(0, 1), least);
     due("the row stays", x.count(8), 3);
-    due("starts stay", x.runner(0, 4), 50);
+    due("starts stay", x.runner(0, 4), 10);
     row(x, 2);
     due("none fits", x.fits(0, 0), 0);
     due("no least", x.fits(0, 1), -9);
@@ -716,7 +707,7 @@ public final class PromiseTest {
 
   // 27, 28, 29
   private static void rows() {
-    HeadStart x = with("r00150010;r00160010;m32;");
+    Noted x = with("r00150010;r00160010;m32;");
     refused("row below", x, () -> x.row(-1), -4);
     refused("row above", x, () -> x.row(100), -6);
     due("row 99", x.row(99), 1);
@@ -734,17 +725,17 @@ public final class PromiseTest {
     row(x, 5, 6);
     due("clear", x.clear(), 2);
     due("clear of none", x.clear(), 0);
-    HeadStart none = new HeadStart();
+    Noted none = new Noted();
     row(none, 0);
     due("nobody wins", none.judge(), 0);
   }
 
   // 26
   private static void letting() {
-    HeadStart none = new HeadStart();
+    Noted none = new Noted();
     refused("let of nobody", none, none::let, -3);
     // 100; 96 and 9 as a SLY; 97 and 5 as LETTING: as a RUNNER 1 would be first, and 2 too
-    HeadStart x = with("w99;r00101000;r39101004;r50101003;");
+    Noted x = with("w99;r00101000;r39101004;r50101003;");
     due("let", x.let(), 2);
     x.start(2, 4);
     x.kind(2, 5, 9);
@@ -753,14 +744,14 @@ public final class PromiseTest {
     x.set(3, 1);
     due("let in an odd week", x.let(), 0);
     // who grows is first by that alone
-    HeadStart y = with("r00100000;r19110000;");
+    Noted y = with("r00100000;r19110000;");
     y.set(3, 20);
     due("first by its kind", y.let(), 2);
   }
 
   // 30
   private static void seeded() {
-    HeadStart x = with("r00150500;r00160310;m32;");
+    Noted x = with("r00150500;r00160310;m32;");
     for (int z : new int[] {1, 0, -5, 123456789, Integer.MIN_VALUE, Integer.MAX_VALUE}) {
       for (int n : new int[] {1, 2, 7, 20}) {
         int[] want = bySeeds(n, z);
@@ -770,7 +761,7 @@ public final class PromiseTest {
       }
     }
     due("seeds stay", x.runner(1, 4) + x.count(2), 10);
-    HeadStart one = with("r00150500;");
+    Noted one = with("r00150500;");
     due("seeds of one", one.seeds(0, 20, 3, 0), 20);
     due("tenths of one", one.seeds(0, 20, 3, 1), 0);
     refused("seeds nobody", x, () -> x.seeds(2, 0, 0, 2), -1);
@@ -778,7 +769,7 @@ public final class PromiseTest {
     refused("seeds 21", x, () -> x.seeds(0, 21, 0, 2), -6);
     refused("seeds what", x, () -> x.seeds(0, 1, 0, 2), -2);
     // 0 holds back in even weeks, so the weeks go on
-    HeadStart sly = with("r39100000;r00100002;");
+    Noted sly = with("r39100000;r00100002;");
     due("weeks go on in seeds", sly.seeds(0, 4, 1, 0), 0);
     sly.start(1, 0);
     due("weeks go on in seeds: two of four", sly.seeds(0, 4, 1, 0), 2);
@@ -810,24 +801,18 @@ public final class PromiseTest {
 
   // 31
   private static void takenBack() {
-    HeadStart x = with("r00150010;r00160010;m32;");
+    Noted x = with("r00150010;r00160010;m32;");
     refused("none to take back", x, x::back, -3);
     List<String> states = new ArrayList<>();
     for (int k = 0; k < 9; k++) {
-      states.add(state(x));
+      states.add(x.field());
       x.run();
       due("to be taken back", x.count(17), Math.min(6, k + 1));
     }
     x.image();
     for (int k = 8; k >= 3; k--) {
       due("back", x.back(), k - 3);
-      String[] was = states.get(k).split(" ");
-      due("week ahead of it", x.count(2), Integer.parseInt(was[2]));
-      due("starts ahead of it", x.runner(0, 4), x.count(5) - x.runner(1, 4));
-      due("all wins ahead of it", x.count(6), k);
-      String told = state(x).substring(state(x).indexOf('/'));
-      looked++;
-      if (!told.equals(states.get(k).substring(states.get(k).indexOf('/')))) wrong.add("back to " + told + ", not " + states.get(k));
+      same("back", x.field(), states.get(k));
     }
     refused("no more to take back", x, x::back, -3);
     x.run();
@@ -844,7 +829,7 @@ public final class PromiseTest {
 
   // 32, 33, 34
   private static void bagsOfTwo() {
-    HeadStart x = with("r00100000;r00110500;r00050000;");
+    Noted x = with("r00100000;r00110500;r00050000;");
     refused("bag of 0", x, () -> x.bag(0), -4);
     refused("bag of 10", x, () -> x.bag(10), -6);
     // 100 against 105, 110, 115
@@ -877,7 +862,7 @@ public final class PromiseTest {
 
   // 35, 36, 37
   private static void cups() {
-    HeadStart x = with("r00100500;r00100300;r00100500;r00100300;");
+    Noted x = with("r00100500;r00100300;r00100500;r00100300;");
     due("ahead", x.ahead(0, 1), 10);
     due("ahead turned", x.ahead(1, 0), 6);
     // 1 ahead of 2: 97: 12 of 16 quarters .. 97 * 3/4, 100 * 3/4, 103 * 1/4
@@ -906,14 +891,14 @@ public final class PromiseTest {
     refusedLong("cup bracket below", x, () -> x.cup(0, -1, 0), -2);
     refusedLong("cup part", x, () -> x.cup(0, 0, 2), -2);
     refused("bracket nobody", x, () -> x.bracket(4), -1);
-    HeadStart three = with("r00100500;r00100300;r00100500;");
+    Noted three = with("r00100500;r00100300;r00100500;");
     refusedLong("cup of three", three, () -> three.cup(0, 0, 0), -3);
     refusedLong("cup part of three", three, () -> three.cup(0, 0, 2), -2);
     refused("bracket of three", three, () -> three.bracket(0), -3);
     refused("bracket nobody of three", three, () -> three.bracket(3), -1);
   }
 
-  private static long cup(HeadStart x, int who, int[] met) {
+  private static long cup(Noted x, int who, int[] met) {
     int at = 0;
     while (met[at] != who) at++;
     int against = met[at ^ 1];
@@ -928,7 +913,7 @@ public final class PromiseTest {
 
   // 38, 39
   private static void leagues() {
-    HeadStart x = with("r00100500;r00100300;r00110500;");
+    Noted x = with("r00100500;r00100300;r00110500;");
     // 10 of 16 against 1; 95, 100, 105 against 105, 110, 115: 16 of 16
     fractionDue("league 0", x.league(0, 0), x.league(0, 1), 13, 8);
     fractionDue("league 1", x.league(1, 0), x.league(1, 1), 11, 8);
@@ -936,15 +921,15 @@ public final class PromiseTest {
     due("table", x.ranks(), 210);
     x.start(2, 50);
     due("table turned", x.ranks(), 102);
-    HeadStart ties = with("r00200000;r00100000;r00100000;r00100000;");
+    Noted ties = with("r00200000;r00100000;r00100000;r00100000;");
     ties.start(0, 0);
     due("table of four", ties.ranks(), 321);
-    HeadStart round = with("r00100000;r00100000;");
+    Noted round = with("r00100000;r00100000;");
     fractionDue("league of a tie", round.league(0, 0), round.league(0, 1), 1, 1);
-    HeadStart one = with("r00100000;");
+    Noted one = with("r00100000;");
     fractionDue("league of one", one.league(0, 0), one.league(0, 1), 0, 1);
     due("table of one", one.ranks(), 0);
-    due("table of nobody", new HeadStart().ranks(), 0);
+    due("table of nobody", new Noted().ranks(), 0);
     refusedLong("league nobody", x, () -> x.league(3, 2), -1);
     refusedLong("league part", x, () -> x.league(0, 2), -2);
   }
@@ -952,18 +937,18 @@ public final class PromiseTest {
   // 40
   private static void holding() {
     // 100 against 103: by rule 1 the first is nine back; holding back 5 leaves the first place to 1
-    HeadStart x = with("r05100010;r00100007;m19;");
+    Noted x = with("r05100010;r00100007;m19;");
     // neither: 0 ahead now (90 : 93), then 99 : 93, 1 ahead: 16 to each
     // 0 holds: 95 : 93, 1 ahead now, then 90 : 100, 0 ahead: 16; 1 has FIGURE 0: all alike
     due("neither", x.hold(0, 1), 0);
     // 0 is ahead anyway when it holds not, and too slow by no means: by rule 0 nothing is had
-    HeadStart even = with("r01100000;r01100000;m09;");
+    Noted even = with("r01100000;r01100000;m09;");
     due("nothing to be had", even.hold(0, 1), 0);
     int[] seen = new int[5];
     for (int code = 0; code < 4000; code++) {
       String lane = "r" + code % 6 + code / 6 % 10 + "1003" + two(code / 7 % 20) + ";r" + code / 60 % 6 + code / 11 % 10 + "1002"
           + two(code / 13 % 20) + ";m" + code / 3 % 5 + (1 + code / 17 % 9) + ";";
-      HeadStart y = with(lane);
+      Noted y = with(lane);
       int want = held(y, 0, 1);
       int got = y.hold(0, 1);
       due("hold of " + lane, got, want);
@@ -976,7 +961,7 @@ public final class PromiseTest {
   }
 
   /** HOLD by calls alone: a bag is no help here, so PACES stand for who holds back. */
-  private static int held(HeadStart x, int one, int other) {
+  private static int held(Noted x, int one, int other) {
     int[] worth = new int[4];
     for (int pair = 0; pair < 4; pair++) {
       int[] time = {x.runner(0, 5), x.runner(1, 5)};
@@ -990,7 +975,7 @@ public final class PromiseTest {
       if (rule == 1 || rule == 3 || rule == 4) start[first] = Math.max(0, start[first] - yard);
       if (rule == 2 || rule == 3) start[1 - first] = Math.min(99, start[1 - first] + yard);
       if (rule == 4) start[1 - first] = Math.min(99, start[1 - first] + 1);
-      HeadStart y = copyOfThree(x, start);
+      Noted y = copyOfThree(x, start);
       y.set(3, x.count(2) + 1);
       worth[pair] += y.ahead(one, other);
     }
@@ -1014,7 +999,7 @@ public final class PromiseTest {
 
   // 41
   private static void legsOfTwo() {
-    HeadStart x = with("r00150050;r29150000;r50150033;");
+    Noted x = with("r00150050;r29150000;r50150033;");
     // 50 and 10 yards by 0: 90, 60 + 0; by 1: 90 + 9 * 10 / 20 = 94, 60
     due("legs: who", x.legs(1, 0, 10, 0), 0);
     due("legs: how long", x.legs(1, 0, 10, 1), 150);
@@ -1034,7 +1019,7 @@ public final class PromiseTest {
 
   // 42, 43
   private static void betting() {
-    HeadStart x = with("r00100500;r00100300;");
+    Noted x = with("r00100500;r00100300;");
     row(x, 1, 9);
     // 5/8 * 2 against 3/8 * 10
     due("bet", x.bet(), 1);
@@ -1052,14 +1037,14 @@ public final class PromiseTest {
       refusedLong("no bets of " + numbers.length, x, () -> x.bets(2), -3);
       due("the row stays then", x.count(8), numbers.length);
     }
-    HeadStart none = new HeadStart();
+    Noted none = new Noted();
     refused("nobody to bet on", none, none::bet, -3);
     refusedLong("nobody to bet on: bets", none, () -> none.bets(0), -3);
   }
 
   // 44, 45, 46
   private static void habits() {
-    HeadStart x = with("r00150010;r00160010;r00250010;m32;");
+    Noted x = with("r00150010;r00160010;r00250010;m32;");
     // 135, 144, 225
     due("tried in none", x.tried(0, 0), 0);
     due("no better in none", x.tried(0, 1), 0);
@@ -1106,17 +1091,17 @@ public final class PromiseTest {
     refused("tried below", x, () -> x.tried(-1, 2), -4);
     refused("tried above", x, () -> x.tried(61, 2), -6);
     refused("tried what", x, () -> x.tried(60, 2), -2);
-    HeadStart one = with("r00150010;");
+    Noted one = with("r00150010;");
     refused("tried of one", one, () -> one.tried(1, 0), -3);
     refused("tried what of one", one, () -> one.tried(1, 2), -2);
-    HeadStart two = with("r00150010;r00160010;");
+    Noted two = with("r00150010;r00160010;");
     two.habit(2, 9);
     due("of two nobody else is there", two.tried(3, 0), 27);
   }
 
   // 47
   private static void hadSoMany() {
-    HeadStart x = with("r00150010;r00160010;m32;");
+    Noted x = with("r00150010;r00160010;m32;");
     for (int m = 0; m <= 4; m++) {
       int many = 0;
       int least = -9;
@@ -1132,9 +1117,9 @@ public final class PromiseTest {
       due("least had " + m, x.had(0, 4, m, 1), least);
       x = with("r00150010;r00160010;m32;");
     }
-    HeadStart y = with("r00150010;r00160010;m32;");
+    Noted y = with("r00150010;r00160010;m32;");
     due("in none all", y.had(0, 0, 0, 0), 100);
-    HeadStart slow = with("r00400000;r00050000;");
+    Noted slow = with("r00400000;r00050000;");
     due("had by 88 yards and more", slow.had(0, 60, 60, 0) + slow.had(0, 1, 1, 0), 24);
     due("no least", slow.had(1, 3, 2, 1), -9);
     due("had stays", y.runner(0, 4), 10);
@@ -1148,7 +1133,7 @@ public final class PromiseTest {
 
   // 48, 49, 50
   private static void pastTimes() {
-    HeadStart x = with("r00150000;");
+    Noted x = with("r00150000;");
     due("all fit no times", x.past(0, 0), 60);
     due("least of all", x.past(0, 1), 0);
     x.set(3, 5);
@@ -1185,13 +1170,13 @@ public final class PromiseTest {
 
   // 51, 52
   private static void images() {
-    HeadStart x = with("w90;r12150307;r34160408;m37;g;");
+    Noted x = with("w90;r12150307;r34160408;m37;g;");
     refused("no image", x, x::restore, -3);
     x.bag(4);
     x.bag(2);
     x.habit(0, 3);
     x.habit(3, -9);
-    String kept = state(x);
+    String kept = x.field();
     int bags = x.bags(0, 1, 1);
     int tried = x.tried(9, 0);
     due("image", x.image(), 1);
@@ -1202,8 +1187,7 @@ public final class PromiseTest {
     x.kind(0, 5, 5);
     x.set(3, 77);
     due("restore", x.restore(), 1);
-    looked++;
-    if (!state(x).equals(kept)) wrong.add("restored " + state(x) + ", not " + kept);
+    same("restored", x.field(), kept);
     due("bags restored", x.bags(0, 1, 1), bags);
     due("habit restored", x.tried(9, 0), tried);
     x.feed('w');
@@ -1225,7 +1209,7 @@ public final class PromiseTest {
     due("a later image is the image", x.count(9), 0);
     x.set(3, 40);
     due("image tells the week", x.image(), 40);
-    HeadStart none = new HeadStart();
+    Noted none = new Noted();
     none.image();
     tell(none, "r00100000;");
     none.restore();
@@ -1235,7 +1219,7 @@ public final class PromiseTest {
 
   // 53
   private static void counts() {
-    HeadStart x = with("w90;r12150307;r34160408;m37;g;");
+    Noted x = with("w90;r12150307;r34160408;m37;g;");
     x.feed('w');
     x.feed('w');
     x.feed('w');
