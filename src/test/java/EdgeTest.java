@@ -807,6 +807,11 @@ public final class EdgeTest {
     due("seeds stay", y.count(5) + y.count(6) + y.count(2), 0);
     due("one alone wins all", with("r00102000;").seeds(0, 20, 5, 0), 20);
     due("one alone: no tenths", with("r00102000;").seeds(0, 20, 5, 1), 0);
+    Noted again = with("r00102000;");
+    again.image();
+    again.tell("r00200000;g;");
+    again.restore();
+    due("one alone again: no tenths", again.seeds(0, 20, 5, 1), 0);
     // 1 at least: DRAWS 0 and then 2 by seed 0: 1 and 1
     Noted low = with("w20;r00052099;r00050099;");
     due("1 at least", low.seeds(0, 1, 0, 1), 0);
@@ -1118,6 +1123,14 @@ public final class EdgeTest {
     due("of two alike the last is the greater number", ties.tried(2, 0), 4);
     ties.habit(2, 9);
     due("no others of two", ties.tried(2, 0), 4);
+    // 2, 3, 5 and 7 yards for the first: 85 : 90, then 68 : 90
+    Noted four = with("r00100015;r00100010;m01;");
+    int[] yards = {2, 3, 5, 7};
+    int[] gap = {7, 10, 15, 22};
+    for (int k = 0; k < 4; k++) {
+      four.habit(0, yards[k]);
+      due("clauses " + (k + 1), four.tried(2, 0), 5 + gap[k]);
+    }
   }
 
   // 47: n 0 .. 60; m 0 .. n
