@@ -26,10 +26,9 @@ public final class HeadStart {
   private final Field aside = new Field();
   private final Field saved = new Field();
   private final Race race = new Race();
-  private final Row letters = new Row(96);
-  private final Teller teller = new Teller(letters, race);
+  private final Teller teller = new Teller();
   private final Row told = new Row(12);
-  private final Row tenths = new Row(6);
+  private final Row toldTimes = new Row(6);
   private final Row bags = new Row(6);
   private final Row savedBags = new Row(6);
   private final Habit habit = new Habit();
@@ -44,14 +43,14 @@ public final class HeadStart {
 
   public int feed(int letter) {
     if (letter < 0) return refuse(BELOW);
-    if (letter > 255 || letters.full()) return refuse(ROOM);
-    return letters.put(letter);
+    if (letter > 255 || teller.letters.full()) return refuse(ROOM);
+    return teller.letters.put(letter);
   }
 
   public int lane() {
     mind.take(now);
     int answer = teller.tell(mind);
-    letters.drop();
+    teller.letters.drop();
     if (answer > 0) {
       now.take(mind);
       runs.drop();
@@ -504,8 +503,8 @@ public final class HeadStart {
 
   public int time(int tenths) {
     if (tenths < 0) return refuse(BELOW);
-    if (tenths > 999 || this.tenths.full()) return refuse(ROOM);
-    return this.tenths.put(tenths);
+    if (tenths > 999 || toldTimes.full()) return refuse(ROOM);
+    return toldTimes.put(tenths);
   }
 
   public int past(int runner, int what) {
@@ -526,7 +525,7 @@ public final class HeadStart {
   }
 
   public int wipe() {
-    return tenths.drop();
+    return toldTimes.drop();
   }
 
   public int image() {
@@ -556,12 +555,12 @@ public final class HeadStart {
       case 4: return now.yard;
       case 5: return now.sum(now.start);
       case 6: return now.sum(now.wins);
-      case 7: return letters.n;
+      case 7: return teller.letters.n;
       case 8: return told.n;
       case 9: return bags.n;
       case 10: return habit.whom.n;
       case 17: return runs.n;
-      case 18: return tenths.n;
+      case 18: return toldTimes.n;
       default: return NONE;
     }
   }
@@ -781,9 +780,9 @@ public final class HeadStart {
   }
 
   private boolean tookThese(int runner) {
-    for (int k = 0; k < tenths.n; k++) {
+    for (int k = 0; k < toldTimes.n; k++) {
       mind.week = now.week + k;
-      if (mind.tenths(runner) != tenths.at(k)) return false;
+      if (mind.tenths(runner) != toldTimes.at(k)) return false;
     }
     return true;
   }
@@ -1209,12 +1208,10 @@ public final class HeadStart {
 
   /** Tells a LANE from its letters. */
   private static final class Teller {
-    final Row letters;
-    final Race race;
+    final Row letters = new Row(96);
+    final Race race = new Race();
 
-    Teller(Row letters, Race race) {
-      this.letters = letters;
-      this.race = race;
+    Teller() {
     }
 
     /** How many STATEMENTS have come to the field, or the FAULT. */

@@ -75,6 +75,9 @@ public final class LanguageTest {
     }
     holds(c + " has twenty fields at most", fields <= 20);
     for (Method method : c.getDeclaredMethods()) holds(method + " takes seven at most", method.getParameterCount() <= 7);
+    for (Constructor<?> made : c.getDeclaredConstructors()) {
+      for (Class<?> p : made.getParameterTypes()) holds(made + " is handed no object", p == int.class);
+    }
     holds(c + " stands alone", c.getSuperclass() == Object.class && c.getInterfaces().length == 0);
     holds(c + " has no classes inside", outer || c.getDeclaredClasses().length == 0);
   }
